@@ -56,29 +56,6 @@ final class PromisesTest {
 
     // ---- helpers
 
-    /** Makes an office with this many members in branch 0, all in band 0. */
-    private static UnionOffice officeWith(int members) {
-        UnionOffice office = new UnionOffice();
-        for (int member = 0; member < members; member++) {
-            office.join(0, 0);
-        }
-        return office;
-    }
-
-    private static void advanceTo(UnionOffice office, int day) {
-        while (office.day() < day) {
-            office.advance(Math.min(100, day - office.day()));
-        }
-    }
-
-    /** Lets the branch of a member win a ballot by its vote, and calls it out. */
-    private static void callOut(UnionOffice office, int branch, int member) {
-        office.open(branch);
-        office.vote(member, true);
-        office.close(branch);
-        office.strike(branch, true);
-    }
-
     private void same(String what, Object got, Object due) {
         check.same(what, got, due);
     }
@@ -93,7 +70,7 @@ final class PromisesTest {
         same("new: dues 1", office.setDues(1, 0), 2000);
         same("new: dues 2", office.setDues(2, 0), 3000);
         same("new: strike pay", office.setStrikePay(0), 500);
-        check.noSuch("new: no member 0", office, () -> office.owed(0));
+        check.noSuch("new: no member 0", () -> office.owed(0));
         for (int branch = 0; branch < 4; branch++) {
             same("new: delegates", office.delegates(branch), 0);
             same("new: out", office.isOut(branch), false);
@@ -102,16 +79,16 @@ final class PromisesTest {
     }
 
     private void setDues() {
-        UnionOffice office = officeWith(1);
+        UnionOffice office = Offices.with(1);
         same("setDues least", office.setDues(0, 0), 1000);
         same("setDues most", office.setDues(0, 100000), 0);
         same("setDues again", office.setDues(0, 100000), 100000);
         for (int band : new int[] {-1, 3, Integer.MIN_VALUE, Integer.MAX_VALUE}) {
-            check.noSuch("setDues band " + band, office, () -> office.setDues(band, 1));
-            check.noSuch("setDues band first " + band, office, () -> office.setDues(band, -1));
+            check.noSuch("setDues band " + band, () -> office.setDues(band, 1));
+            check.noSuch("setDues band first " + band, () -> office.setDues(band, -1));
         }
         for (int dues : new int[] {-1, 100001, Integer.MIN_VALUE, Integer.MAX_VALUE}) {
-            check.badArgument("setDues " + dues, office, () -> office.setDues(0, dues));
+            check.badArgument("setDues " + dues, () -> office.setDues(0, dues));
         }
         same("setDues: refused ones set nothing", office.setDues(0, 70), 100000);
         office.advance(29);
@@ -129,7 +106,7 @@ final class PromisesTest {
         same("setStrikePay most", office.setStrikePay(100000), 500);
         same("setStrikePay least", office.setStrikePay(0), 100000);
         for (int pay : new int[] {-1, 100001, Integer.MIN_VALUE, Integer.MAX_VALUE}) {
-            check.badArgument("setStrikePay " + pay, office, () -> office.setStrikePay(pay));
+            check.badArgument("setStrikePay " + pay, () -> office.setStrikePay(pay));
         }
         same("setStrikePay: refused ones set nothing", office.setStrikePay(7), 0);
         same("setStrikePay again", office.setStrikePay(8), 7);
@@ -138,19 +115,19 @@ final class PromisesTest {
     private void join() {
         UnionOffice office = new UnionOffice();
         for (int wrong : new int[] {-1, 4, Integer.MIN_VALUE, Integer.MAX_VALUE}) {
-            check.noSuch("join branch " + wrong, office, () -> office.join(wrong, 0));
+            check.noSuch("join branch " + wrong, () -> office.join(wrong, 0));
         }
         for (int wrong : new int[] {-1, 3, Integer.MIN_VALUE, Integer.MAX_VALUE}) {
-            check.noSuch("join band " + wrong, office, () -> office.join(0, wrong));
+            check.noSuch("join band " + wrong, () -> office.join(0, wrong));
         }
         for (int member = 0; member < 16; member++) {
             same("join", office.join(member % 4, member % 3), member);
         }
-        check.badState("a 17th joins", office, () -> office.join(0, 0));
-        check.noSuch("a 17th joins no branch", office, () -> office.join(4, 0));
-        check.noSuch("a 17th joins no band", office, () -> office.join(0, 3));
+        check.badState("a 17th joins", () -> office.join(0, 0));
+        check.noSuch("a 17th joins no branch", () -> office.join(4, 0));
+        check.noSuch("a 17th joins no band", () -> office.join(0, 3));
         office.quit(3);
-        check.badState("those that left count", office, () -> office.join(0, 0));
+        check.badState("those that left count", () -> office.join(0, 0));
         office.advance(30);
         same("join: dues of the band", office.owed(5), 3000);
         same("join: the last one's dues", office.owed(15), 1000);
@@ -159,7 +136,7 @@ final class PromisesTest {
     }
 
     private void move() {
-        UnionOffice office = officeWith(2);
+        UnionOffice office = Offices.with(2);
         office.move(0, 3, 2);
         office.advance(30);
         same("move: dues of the new band", office.owed(0), 3000);
@@ -169,24 +146,24 @@ final class PromisesTest {
         same("move: not for the old one", office.laidFor(0, 0), 0);
         same("move: standing is counted in the new branch", office.open(3), 1);
         for (int wrong : new int[] {-1, 2, 16, Integer.MIN_VALUE, Integer.MAX_VALUE}) {
-            check.noSuch("move member " + wrong, office, () -> office.move(wrong, 0, 0));
+            check.noSuch("move member " + wrong, () -> office.move(wrong, 0, 0));
         }
         for (int wrong : new int[] {-1, 4, Integer.MIN_VALUE, Integer.MAX_VALUE}) {
-            check.noSuch("move branch " + wrong, office, () -> office.move(1, wrong, 0));
+            check.noSuch("move branch " + wrong, () -> office.move(1, wrong, 0));
         }
         for (int wrong : new int[] {-1, 3, Integer.MIN_VALUE, Integer.MAX_VALUE}) {
-            check.noSuch("move band " + wrong, office, () -> office.move(1, 0, wrong));
+            check.noSuch("move band " + wrong, () -> office.move(1, 0, wrong));
         }
         office.quit(1);
-        check.badState("move of one that left", office, () -> office.move(1, 2, 2));
-        check.noSuch("move of one that left to no branch", office, () -> office.move(1, 4, 2));
-        check.noSuch("move of one that left to no band", office, () -> office.move(1, 2, 3));
+        check.badState("move of one that left", () -> office.move(1, 2, 2));
+        check.noSuch("move of one that left to no branch", () -> office.move(1, 4, 2));
+        check.noSuch("move of one that left to no band", () -> office.move(1, 2, 3));
         office.pay(1, 1000);
         same("move: a refused one moves nothing", office.laidFor(0, 0), 1000);
     }
 
     private void leave() {
-        UnionOffice office = officeWith(2);
+        UnionOffice office = Offices.with(2);
         same("leave: was not", office.leave(0, true), false);
         same("leave: was", office.leave(0, true), true);
         office.advance(30);
@@ -203,14 +180,14 @@ final class PromisesTest {
         office.advance(1);
         same("leave begun on the last day", office.owed(0), 1000);
         for (int wrong : new int[] {-1, 2, 16, Integer.MIN_VALUE, Integer.MAX_VALUE}) {
-            check.noSuch("leave member " + wrong, office, () -> office.leave(wrong, true));
+            check.noSuch("leave member " + wrong, () -> office.leave(wrong, true));
         }
         office.quit(1);
-        check.badState("leave of one that left", office, () -> office.leave(1, true));
+        check.badState("leave of one that left", () -> office.leave(1, true));
     }
 
     private void quit() {
-        UnionOffice office = officeWith(3);
+        UnionOffice office = Offices.with(3);
         same("quit: owes nothing", office.quit(0), 0);
         office.advance(60);
         same("quit: owes no more dues", office.owed(0), 0);
@@ -219,18 +196,18 @@ final class PromisesTest {
         same("quit: what it owes stays", office.owed(1), 2000);
         same("quit: no standing", office.hasStanding(0), false);
         for (int wrong : new int[] {-1, 3, 16, Integer.MIN_VALUE, Integer.MAX_VALUE}) {
-            check.noSuch("quit member " + wrong, office, () -> office.quit(wrong));
+            check.noSuch("quit member " + wrong, () -> office.quit(wrong));
         }
-        check.badState("quit twice", office, () -> office.quit(1));
+        check.badState("quit twice", () -> office.quit(1));
         same("quit: pays all", office.pay(1, 2000), 0);
         same("quit: no standing though it owes nothing", office.hasStanding(1), false);
         same("quit: laid for its last branch", office.laidFor(0, 1), 1000);
     }
 
     private void pay() {
-        UnionOffice office = officeWith(2);
+        UnionOffice office = Offices.with(2);
         office.setDues(0, 99);
-        advanceTo(office, 90);
+        Offices.advanceTo(office, 90);
         same("pay: what it owes then", office.pay(0, 104), 193);
         same("pay: the earliest month first", office.laid(0, 0), 99);
         same("pay: the rest on the next", office.laid(0, 1), 5);
@@ -243,23 +220,23 @@ final class PromisesTest {
         same("pay: left over", office.credit(0), 1000000 - 98);
         same("pay: no fifth of the credit", office.fund(), 38 + 19);
         for (int wrong : new int[] {-1, 2, 16, Integer.MIN_VALUE, Integer.MAX_VALUE}) {
-            check.noSuch("pay member " + wrong, office, () -> office.pay(wrong, 1));
-            check.noSuch("pay member first " + wrong, office, () -> office.pay(wrong, 0));
+            check.noSuch("pay member " + wrong, () -> office.pay(wrong, 1));
+            check.noSuch("pay member first " + wrong, () -> office.pay(wrong, 0));
         }
         for (int amount : new int[] {0, -1, 1000001, Integer.MIN_VALUE, Integer.MAX_VALUE}) {
-            check.badArgument("pay " + amount, office, () -> office.pay(0, amount));
+            check.badArgument("pay " + amount, () -> office.pay(0, amount));
         }
         office.quit(1);
         same("pay of one that left", office.pay(1, 100), 197);
-        check.badArgument("one that left pays 0", office, () -> office.pay(1, 0));
+        check.badArgument("one that left pays 0", () -> office.pay(1, 0));
     }
 
     private void payWithCredit() {
-        UnionOffice office = officeWith(1);
+        UnionOffice office = Offices.with(1);
         same("credit: before any month", office.pay(0, 2504), 0);
         same("credit: all of it", office.credit(0), 2504);
         same("credit: no fund yet", office.fund(), 0);
-        advanceTo(office, 90);
+        Offices.advanceTo(office, 90);
         same("credit: laid as months come", office.owed(0), 3000 - 2504);
         same("credit: the last month", office.laid(0, 2), 504);
         same("credit: used up", office.credit(0), 0);
@@ -281,48 +258,48 @@ final class PromisesTest {
     // ---- promises 9 to 12
 
     private void open() {
-        UnionOffice office = officeWith(3);
+        UnionOffice office = Offices.with(3);
         office.join(1, 0);
         office.quit(2);
         same("open: those with standing", office.open(0), 2);
-        check.badState("open twice", office, () -> office.open(0));
+        check.badState("open twice", () -> office.open(0));
         same("open: another branch", office.open(1), 1);
         same("open: nobody there", office.open(3), 0);
         for (int wrong : new int[] {-1, 4, Integer.MIN_VALUE, Integer.MAX_VALUE}) {
-            check.noSuch("open branch " + wrong, office, () -> office.open(wrong));
+            check.noSuch("open branch " + wrong, () -> office.open(wrong));
         }
         same("open: not won by nobody", office.close(3), false);
         same("open again", office.open(3), 0);
         office.close(0);
-        callOut(office, 0, 0);
-        check.badState("open on strike", office, () -> office.open(0));
+        Offices.callOut(office, 0, 0);
+        check.badState("open on strike", () -> office.open(0));
         office.strike(0, false);
         same("open behind the strike", office.open(0), 2);
         same("open: no old votes", office.vote(0, true), 1);
     }
 
     private void vote() {
-        UnionOffice office = officeWith(3);
+        UnionOffice office = Offices.with(3);
         office.join(1, 0);
-        check.badState("vote without ballot", office, () -> office.vote(0, true));
+        check.badState("vote without ballot", () -> office.vote(0, true));
         office.open(0);
         same("vote yes", office.vote(0, true), 1);
         same("vote no", office.vote(1, false), 2);
-        check.badState("vote twice", office, () -> office.vote(0, false));
-        check.badState("vote in another branch's ballot", office, () -> office.vote(3, true));
+        check.badState("vote twice", () -> office.vote(0, false));
+        check.badState("vote in another branch's ballot", () -> office.vote(3, true));
         office.quit(2);
-        check.badState("vote of one that left", office, () -> office.vote(2, true));
+        check.badState("vote of one that left", () -> office.vote(2, true));
         for (int wrong : new int[] {-1, 4, 16, Integer.MIN_VALUE, Integer.MAX_VALUE}) {
-            check.noSuch("vote member " + wrong, office, () -> office.vote(wrong, true));
+            check.noSuch("vote member " + wrong, () -> office.vote(wrong, true));
         }
         office.close(0);
-        check.badState("vote in a closed ballot", office, () -> office.vote(1, true));
+        check.badState("vote in a closed ballot", () -> office.vote(1, true));
 
-        UnionOffice late = officeWith(2);
+        UnionOffice late = Offices.with(2);
         late.leave(1, true);
-        advanceTo(late, 90);
+        Offices.advanceTo(late, 90);
         late.open(0);
-        check.badState("vote without standing", late, () -> late.vote(0, true));
+        check.badState("vote without standing", () -> late.vote(0, true));
         same("vote on leave", late.vote(1, true), 1);
         late.pay(0, 1000);
         same("vote with the standing again", late.vote(0, false), 2);
@@ -332,16 +309,16 @@ final class PromisesTest {
     }
 
     private void voteAndMove() {
-        UnionOffice office = officeWith(2);
+        UnionOffice office = Offices.with(2);
         office.join(1, 0);
         office.open(0);
         office.open(1);
         office.vote(0, true);
         office.move(0, 1, 0);
         same("vote in the new branch too", office.vote(0, true), 1);
-        check.badState("vote twice in the new branch", office, () -> office.vote(0, true));
+        check.badState("vote twice in the new branch", () -> office.vote(0, true));
         office.move(0, 0, 0);
-        check.badState("vote twice in the old branch", office, () -> office.vote(0, true));
+        check.badState("vote twice in the old branch", () -> office.vote(0, true));
         office.move(0, 1, 0);
         same("a vote stays when its member has moved", office.vote(1, true), 2);
         office.move(1, 1, 0);
@@ -351,15 +328,15 @@ final class PromisesTest {
     }
 
     private void close() {
-        UnionOffice office = officeWith(4);
-        check.badState("close without ballot", office, () -> office.close(0));
+        UnionOffice office = Offices.with(4);
+        check.badState("close without ballot", () -> office.close(0));
         for (int wrong : new int[] {-1, 4, Integer.MIN_VALUE, Integer.MAX_VALUE}) {
-            check.noSuch("close branch " + wrong, office, () -> office.close(wrong));
+            check.noSuch("close branch " + wrong, () -> office.close(wrong));
         }
         office.open(0);
         office.vote(0, true);
         same("close: fewer than half voted", office.close(0), false);
-        check.badState("close twice", office, () -> office.close(0));
+        check.badState("close twice", () -> office.close(0));
         office.open(0);
         office.vote(0, true);
         office.vote(1, true);
@@ -388,7 +365,7 @@ final class PromisesTest {
     }
 
     private void closeByMembersOfThatDay() {
-        UnionOffice office = officeWith(2);
+        UnionOffice office = Offices.with(2);
         office.open(0);
         office.vote(0, true);
         office.join(0, 0);
@@ -398,10 +375,10 @@ final class PromisesTest {
         office.quit(1);
         same("one of two, one left later", office.close(0), true);
 
-        UnionOffice late = officeWith(3);
+        UnionOffice late = Offices.with(3);
         late.open(0);
         late.vote(0, true);
-        advanceTo(late, 90);
+        Offices.advanceTo(late, 90);
         same("no standing left, the vote counts", late.close(0), true);
         late.pay(1, 1000);
         late.pay(2, 1000);
@@ -412,55 +389,55 @@ final class PromisesTest {
     }
 
     private void strike() {
-        UnionOffice office = officeWith(1);
+        UnionOffice office = Offices.with(1);
         for (int wrong : new int[] {-1, 4, Integer.MIN_VALUE, Integer.MAX_VALUE}) {
-            check.noSuch("strike branch " + wrong, office, () -> office.strike(wrong, true));
-            check.noSuch("end strike, branch " + wrong, office, () -> office.strike(wrong, false));
+            check.noSuch("strike branch " + wrong, () -> office.strike(wrong, true));
+            check.noSuch("end strike, branch " + wrong, () -> office.strike(wrong, false));
         }
-        check.badState("strike without ballot", office, () -> office.strike(0, true));
-        check.badState("end no strike", office, () -> office.strike(0, false));
+        check.badState("strike without ballot", () -> office.strike(0, true));
+        check.badState("end no strike", () -> office.strike(0, false));
         office.open(0);
         office.vote(0, true);
-        check.badState("strike before the ballot is closed", office, () -> office.strike(0, true));
+        check.badState("strike before the ballot is closed", () -> office.strike(0, true));
         office.close(0);
-        check.badState("end no strike behind a won ballot", office, () -> office.strike(0, false));
-        check.badState("strike of another branch", office, () -> office.strike(1, true));
+        check.badState("end no strike behind a won ballot", () -> office.strike(0, false));
+        check.badState("strike of another branch", () -> office.strike(1, true));
         office.strike(0, true);
         same("on strike", office.isOut(0), true);
-        check.badState("strike on strike", office, () -> office.strike(0, true));
+        check.badState("strike on strike", () -> office.strike(0, true));
         office.strike(0, false);
         same("no more on strike", office.isOut(0), false);
-        check.badState("end it twice", office, () -> office.strike(0, false));
+        check.badState("end it twice", () -> office.strike(0, false));
     }
 
     private void strikeOnlyOnceForABallot() {
-        UnionOffice office = officeWith(1);
-        callOut(office, 0, 0);
+        UnionOffice office = Offices.with(1);
+        Offices.callOut(office, 0, 0);
         office.strike(0, false);
-        check.badState("strike twice for one ballot", office, () -> office.strike(0, true));
+        check.badState("strike twice for one ballot", () -> office.strike(0, true));
         office.open(0);
         office.vote(0, true);
         office.close(0);
         office.open(0);
-        check.badState("strike while there is a ballot", office, () -> office.strike(0, true));
+        check.badState("strike while there is a ballot", () -> office.strike(0, true));
         office.vote(0, false);
         office.close(0);
-        check.badState("strike, the last one lost", office, () -> office.strike(0, true));
+        check.badState("strike, the last one lost", () -> office.strike(0, true));
         office.open(0);
         office.vote(0, true);
         office.close(0);
-        advanceTo(office, 89);
+        Offices.advanceTo(office, 89);
         office.strike(0, true);
         same("a won ballot lasts", office.isOut(0), true);
     }
 
     private void strikePayByDays() {
-        UnionOffice office = officeWith(2);
+        UnionOffice office = Offices.with(2);
         office.join(1, 0);
         office.join(2, 0);
         office.setStrikePay(90);
-        callOut(office, 1, 2);
-        callOut(office, 0, 0);
+        Offices.callOut(office, 1, 2);
+        Offices.callOut(office, 0, 0);
         office.advance(30);
         same("nothing in the fund on these days", office.strikePay(0), 0);
         office.pay(3, 1000);
@@ -492,30 +469,30 @@ final class PromisesTest {
     // ---- promises 13 and 14
 
     private void advance() {
-        UnionOffice office = officeWith(1);
+        UnionOffice office = Offices.with(1);
         same("advance the least", office.advance(1), 1);
         same("advance the most", office.advance(100), 101);
         for (int days : new int[] {0, -1, 101, Integer.MIN_VALUE, Integer.MAX_VALUE}) {
-            check.badArgument("advance " + days, office, () -> office.advance(days));
+            check.badArgument("advance " + days, () -> office.advance(days));
         }
-        advanceTo(office, 1790);
-        check.badState("advance above the last day", office, () -> office.advance(11));
-        check.badArgument("advance by too many days first", office, () -> office.advance(101));
+        Offices.advanceTo(office, 1790);
+        check.badState("advance above the last day", () -> office.advance(11));
+        check.badArgument("advance by too many days first", () -> office.advance(101));
         same("advance to the last day", office.advance(10), 1800);
-        check.badState("advance on the last day", office, () -> office.advance(1));
-        check.badState("advance the most on the last day", office, () -> office.advance(100));
-        check.badArgument("advance by no day on the last day", office, () -> office.advance(0));
+        check.badState("advance on the last day", () -> office.advance(1));
+        check.badState("advance the most on the last day", () -> office.advance(100));
+        check.badArgument("advance by no day on the last day", () -> office.advance(0));
         same("dues of all sixty months", office.owed(0), 60000);
         same("the last month has ended", office.laid(0, 59), 0);
-        check.noSuch("there is no month behind it", office, () -> office.laid(0, 60));
+        check.noSuch("there is no month behind it", () -> office.laid(0, 60));
         same("all months can be paid", office.pay(0, 60000), 0);
         same("all months are laid", office.fold(59), 60000);
     }
 
     private void orderAtTheEndOfADay() {
-        UnionOffice office = officeWith(1);
+        UnionOffice office = Offices.with(1);
         office.pay(0, 2000);
-        callOut(office, 0, 0);
+        Offices.callOut(office, 0, 0);
         office.setStrikePay(200);
         office.advance(30);
         same("strike pay before dues", office.strikePay(0), 0);
@@ -524,58 +501,58 @@ final class PromisesTest {
         same("strike pay of the next day", office.strikePay(0), 200);
 
         // Day 359 is the last day of month 11; of months 0 to 8 the term is over on day 330.
-        UnionOffice year = officeWith(4);
+        UnionOffice year = Offices.with(4);
         for (int member = 0; member < 4; member++) {
             year.pay(member, 10000);
         }
-        advanceTo(year, 359);
+        Offices.advanceTo(year, 359);
         same("delegates before the year", year.delegates(0), 0);
         same("standing on the year's last day", year.hasStanding(3), true);
         year.advance(1);
         same("delegates at the year's beginning", year.delegates(0), 2);
 
         // What month 9 owes costs the standing on day 360, not on day 359.
-        UnionOffice late = officeWith(1);
+        UnionOffice late = Offices.with(1);
         late.setDues(0, 0);
-        advanceTo(late, 299);
+        Offices.advanceTo(late, 299);
         late.setDues(0, 1);
         late.advance(1);
         late.setDues(0, 0);
-        callOut(late, 0, 0);
+        Offices.callOut(late, 0, 0);
         late.setStrikePay(0);
-        advanceTo(late, 359);
+        Offices.advanceTo(late, 359);
         same("standing on the day before", late.hasStanding(0), true);
         late.advance(1);
         same("delegates by the day that begins", late.delegates(0), 0);
     }
 
     private void fold() {
-        UnionOffice office = officeWith(2);
-        check.badArgument("fold before the first month's end", office, () -> office.fold(0));
-        advanceTo(office, 29);
-        check.badArgument("fold on the last day", office, () -> office.fold(0));
-        advanceTo(office, 120);
+        UnionOffice office = Offices.with(2);
+        check.badArgument("fold before the first month's end", () -> office.fold(0));
+        Offices.advanceTo(office, 29);
+        check.badArgument("fold on the last day", () -> office.fold(0));
+        Offices.advanceTo(office, 120);
         office.pay(0, 3500);
         office.pay(1, 1200);
         for (int month : new int[] {-1, 4, 60, Integer.MIN_VALUE, Integer.MAX_VALUE}) {
-            check.badArgument("fold " + month, office, () -> office.fold(month));
+            check.badArgument("fold " + month, () -> office.fold(month));
         }
         same("fold two months", office.fold(1), 3200);
-        check.badArgument("fold again", office, () -> office.fold(1));
-        check.badArgument("fold an earlier one", office, () -> office.fold(0));
+        check.badArgument("fold again", () -> office.fold(1));
+        check.badArgument("fold an earlier one", () -> office.fold(0));
         same("fold the rest", office.fold(3), 1500);
-        check.badArgument("fold behind the last ended month", office, () -> office.fold(4));
+        check.badArgument("fold behind the last ended month", () -> office.fold(4));
         same("what is owed stays", office.owed(1), 2800);
         same("standing goes by folded months", office.hasStanding(1), false);
     }
 
     private void paymentsOnFoldedMonths() {
-        UnionOffice office = officeWith(2);
+        UnionOffice office = Offices.with(2);
         office.quit(1);
-        advanceTo(office, 90);
+        Offices.advanceTo(office, 90);
         same("fold: nothing laid so far", office.fold(0), 0);
         same("pay on folded months", office.pay(0, 1100), 1900);
-        check.badState("laid on a folded month", office, () -> office.laid(0, 0));
+        check.badState("laid on a folded month", () -> office.laid(0, 0));
         same("laid on a month behind", office.laid(0, 1), 100);
         same("laid for a branch on a folded month", office.laidFor(0, 0), 1000);
         same("fold: only those not folded", office.fold(2), 100);
@@ -586,7 +563,7 @@ final class PromisesTest {
     // ---- promises 15 to 24
 
     private void dayAndFund() {
-        UnionOffice office = officeWith(1);
+        UnionOffice office = Offices.with(1);
         office.advance(17);
         same("day", office.day(), 17);
         office.advance(13);
@@ -598,10 +575,10 @@ final class PromisesTest {
     }
 
     private void owedAndCredit() {
-        UnionOffice office = officeWith(2);
+        UnionOffice office = Offices.with(2);
         for (int wrong : new int[] {-1, 2, 16, Integer.MIN_VALUE, Integer.MAX_VALUE}) {
-            check.noSuch("owed of " + wrong, office, () -> office.owed(wrong));
-            check.noSuch("credit of " + wrong, office, () -> office.credit(wrong));
+            check.noSuch("owed of " + wrong, () -> office.owed(wrong));
+            check.noSuch("credit of " + wrong, () -> office.credit(wrong));
         }
         office.advance(29);
         same("owes nothing before the month's end", office.owed(0), 0);
@@ -620,30 +597,30 @@ final class PromisesTest {
     }
 
     private void laid() {
-        UnionOffice office = officeWith(2);
-        check.noSuch("laid on a month that has not ended", office, () -> office.laid(0, 0));
+        UnionOffice office = Offices.with(2);
+        check.noSuch("laid on a month that has not ended", () -> office.laid(0, 0));
         office.pay(0, 1500);
-        advanceTo(office, 60);
+        Offices.advanceTo(office, 60);
         same("laid of credit", office.laid(0, 0), 1000);
         same("laid of what is left", office.laid(0, 1), 500);
         same("laid is its own", office.laid(1, 0), 0);
         for (int month : new int[] {-1, 2, 60, Integer.MIN_VALUE, Integer.MAX_VALUE}) {
-            check.noSuch("laid on month " + month, office, () -> office.laid(0, month));
+            check.noSuch("laid on month " + month, () -> office.laid(0, month));
         }
         for (int wrong : new int[] {-1, 2, 16, Integer.MIN_VALUE, Integer.MAX_VALUE}) {
-            check.noSuch("laid by " + wrong, office, () -> office.laid(wrong, 0));
+            check.noSuch("laid by " + wrong, () -> office.laid(wrong, 0));
         }
         office.fold(0);
-        check.badState("laid on a folded month", office, () -> office.laid(0, 0));
-        check.noSuch("laid on a folded month by nobody", office, () -> office.laid(2, 0));
-        check.noSuch("laid below 0 with folded months", office, () -> office.laid(0, -1));
+        check.badState("laid on a folded month", () -> office.laid(0, 0));
+        check.noSuch("laid on a folded month by nobody", () -> office.laid(2, 0));
+        check.noSuch("laid below 0 with folded months", () -> office.laid(0, -1));
         same("laid behind the folded one", office.laid(0, 1), 500);
     }
 
     private void laidFor() {
-        UnionOffice office = officeWith(2);
-        check.noSuch("laidFor before the month's end", office, () -> office.laidFor(0, 0));
-        advanceTo(office, 60);
+        UnionOffice office = Offices.with(2);
+        check.noSuch("laidFor before the month's end", () -> office.laidFor(0, 0));
+        Offices.advanceTo(office, 60);
         office.pay(0, 600);
         office.pay(1, 70);
         same("laidFor: all members", office.laidFor(0, 0), 670);
@@ -653,10 +630,10 @@ final class PromisesTest {
         same("laidFor: the new branch", office.laidFor(3, 0), 400);
         same("laidFor: the new branch, next month", office.laidFor(3, 1), 100);
         for (int month : new int[] {-1, 2, 60, Integer.MIN_VALUE, Integer.MAX_VALUE}) {
-            check.noSuch("laidFor month " + month, office, () -> office.laidFor(0, month));
+            check.noSuch("laidFor month " + month, () -> office.laidFor(0, month));
         }
         for (int wrong : new int[] {-1, 4, Integer.MIN_VALUE, Integer.MAX_VALUE}) {
-            check.noSuch("laidFor branch " + wrong, office, () -> office.laidFor(wrong, 0));
+            check.noSuch("laidFor branch " + wrong, () -> office.laidFor(wrong, 0));
         }
         office.fold(1);
         same("laidFor a folded month", office.laidFor(3, 0), 400);
@@ -666,9 +643,9 @@ final class PromisesTest {
     }
 
     private void hasStanding() {
-        UnionOffice office = officeWith(2);
+        UnionOffice office = Offices.with(2);
         same("standing at once", office.hasStanding(0), true);
-        advanceTo(office, 89);
+        Offices.advanceTo(office, 89);
         same("standing on the term's last day", office.hasStanding(0), true);
         office.advance(1);
         same("no standing behind the term", office.hasStanding(0), false);
@@ -682,34 +659,34 @@ final class PromisesTest {
         office.quit(0);
         same("no standing for one that left", office.hasStanding(0), false);
         for (int wrong : new int[] {-1, 2, 16, Integer.MIN_VALUE, Integer.MAX_VALUE}) {
-            check.noSuch("standing of " + wrong, office, () -> office.hasStanding(wrong));
+            check.noSuch("standing of " + wrong, () -> office.hasStanding(wrong));
         }
 
-        UnionOffice free = officeWith(1);
+        UnionOffice free = Offices.with(1);
         free.setDues(0, 0);
-        advanceTo(free, 300);
+        Offices.advanceTo(free, 300);
         same("standing where the dues are 0", free.hasStanding(0), true);
         free.setDues(0, 5);
-        advanceTo(free, 389);
+        Offices.advanceTo(free, 389);
         same("the term begins with what is owed", free.hasStanding(0), true);
         free.advance(1);
         same("and ends", free.hasStanding(0), false);
     }
 
     private void strikePay() {
-        UnionOffice office = officeWith(2);
+        UnionOffice office = Offices.with(2);
         office.join(1, 0);
         office.advance(30);
         office.pay(2, 1000);
         for (int times = 0; times < 9; times++) {
             office.pay(2, 1000000);
         }
-        advanceTo(office, 120);
+        Offices.advanceTo(office, 120);
         int before = office.fund();
         same("fund before the strike", before, 800);
         office.pay(0, 4000);
         office.setStrikePay(150);
-        callOut(office, 0, 0);
+        Offices.callOut(office, 0, 0);
         office.advance(2);
         same("strike pay of two days", office.strikePay(0), 300);
         same("no strike pay without standing", office.strikePay(1), 0);
@@ -717,13 +694,13 @@ final class PromisesTest {
         same("strike pay comes from the fund", office.fund(), before + 800 - 300);
         same("strike pay is no credit", office.credit(0), 0);
         for (int wrong : WRONG_NUMBERS) {
-            check.noSuch("strike pay of " + wrong, office, () -> office.strikePay(wrong));
+            check.noSuch("strike pay of " + wrong, () -> office.strikePay(wrong));
         }
-        check.noSuch("strike pay of the next", office, () -> office.strikePay(3));
+        check.noSuch("strike pay of the next", () -> office.strikePay(3));
     }
 
     private void delegates() {
-        UnionOffice office = officeWith(7);
+        UnionOffice office = Offices.with(7);
         office.join(1, 0);
         office.join(2, 0);
         office.join(2, 0);
@@ -733,7 +710,7 @@ final class PromisesTest {
             office.pay(member, 100000);
         }
         office.quit(10);
-        advanceTo(office, 360);
+        Offices.advanceTo(office, 360);
         same("seven: three delegates", office.delegates(0), 3);
         same("one: one delegate", office.delegates(1), 1);
         same("two: one delegate", office.delegates(2), 1);
@@ -741,26 +718,26 @@ final class PromisesTest {
         office.quit(6);
         office.move(0, 3, 0);
         same("delegates stay for the year", office.delegates(0), 3);
-        advanceTo(office, 719);
+        Offices.advanceTo(office, 719);
         same("delegates stay to the year's end", office.delegates(0), 3);
         office.advance(1);
         same("five: two delegates", office.delegates(0), 2);
         same("one moved there", office.delegates(3), 1);
         office.move(7, 3, 0);
         office.move(8, 3, 0);
-        advanceTo(office, 1080);
+        Offices.advanceTo(office, 1080);
         same("three: one delegate", office.delegates(3), 1);
         same("none any more", office.delegates(1), 0);
         for (int wrong : WRONG_NUMBERS) {
-            check.noSuch("delegates of " + wrong, office, () -> office.delegates(wrong));
+            check.noSuch("delegates of " + wrong, () -> office.delegates(wrong));
         }
-        check.noSuch("delegates of branch 4", office, () -> office.delegates(4));
+        check.noSuch("delegates of branch 4", () -> office.delegates(4));
     }
 
     private void isOut() {
-        UnionOffice office = officeWith(1);
+        UnionOffice office = Offices.with(1);
         office.join(3, 0);
-        callOut(office, 3, 1);
+        Offices.callOut(office, 3, 1);
         same("out", office.isOut(3), true);
         same("others are not out", office.isOut(0), false);
         office.advance(100);
@@ -768,8 +745,8 @@ final class PromisesTest {
         office.strike(3, false);
         same("in again", office.isOut(3), false);
         for (int wrong : WRONG_NUMBERS) {
-            check.noSuch("out of " + wrong, office, () -> office.isOut(wrong));
+            check.noSuch("out of " + wrong, () -> office.isOut(wrong));
         }
-        check.noSuch("out of branch 4", office, () -> office.isOut(4));
+        check.noSuch("out of branch 4", () -> office.isOut(4));
     }
 }
