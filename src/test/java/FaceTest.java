@@ -86,14 +86,20 @@ final class FaceTest {
         for (Field field : face.getDeclaredFields()) {
             checkPrivate(check, field);
         }
+        checkNames(check, face, publicNames);
         for (Class<?> inside : face.getDeclaredClasses()) {
+            checkNames(check, inside, publicNames);
             check.same(inside + " is static", Modifier.isStatic(inside.getModifiers()), true);
             check.same(inside + " is public", Modifier.isPublic(inside.getModifiers()), false);
             for (Constructor<?> constructor : inside.getDeclaredConstructors()) {
                 checkPrivate(check, constructor);
             }
         }
-        for (Method method : face.getDeclaredMethods()) {
+    }
+
+    /** No private method bears the name of a public one, in the classes inside too. */
+    private static void checkNames(Check check, Class<?> holder, Set<String> publicNames) {
+        for (Method method : holder.getDeclaredMethods()) {
             boolean isHidden = Modifier.isPrivate(method.getModifiers());
             check.same(method + " bears a public name and is private",
                     isHidden && publicNames.contains(method.getName()), false);
